@@ -45,12 +45,12 @@ public final class UnreadLeaflets {
     private static final int SO_ALREADY = 12;
     private static final int FEWER_LOST = 13;
 
-    private final Archive archive = new Archive();
+    private final Changes changes = new Changes();
+    private final Archive archive = changes.archive;
+    private final Reason kept = changes.kept;
+    private final History history = new History();
     private final Archive snapshot = new Archive();
     private boolean hasSnapshot;
-    private final History history = new History();
-    private final Reason kept = new Reason();
-    private final Changes changes = new Changes(archive, kept);
     private final Text text = new Text();
     private final Line written = new Line();
     private final Tin trialTin = new Tin();
@@ -860,13 +860,8 @@ public final class UnreadLeaflets {
      * nothing else and answers REFUSED. The tests stand in the order in which the document lists the reasons.
      */
     private static final class Changes {
-        private final Archive archive;
-        private final Reason kept;
-
-        Changes(Archive archive, Reason kept) {
-            this.archive = archive;
-            this.kept = kept;
-        }
+        final Archive archive = new Archive();
+        final Reason kept = new Reason();
 
         private int refuseNoLeaflet() {
             return kept.refuse(NO_LEAFLET, archive.leafletCount);

@@ -64,8 +64,21 @@ public final class RunsTest {
     private void due(int number, String what, String got, String wanted) {
         if (!got.equals(wanted)) {
             wrong++;
-            System.out.println(title + ":" + number + ": " + what + " answered " + got + ", due is " + wanted);
+            System.out.println(title + ":" + number + ": " + what + " answered " + firstOther(got, wanted)
+                    + ", due is " + firstOther(wanted, got));
         }
+    }
+
+    /** Returns the first row of a text that the other does not have in its place, for whole states are long. */
+    private static String firstOther(String text, String other) {
+        String[] rows = text.split("\n", -1);
+        String[] others = other.split("\n", -1);
+        for (int k = 0; k < rows.length; k++) {
+            if (k >= others.length || !rows[k].equals(others[k])) {
+                return rows[k];
+            }
+        }
+        return "";
     }
 
     private void carryOut(int number, String row) {
