@@ -1,26 +1,52 @@
 import java.lang.reflect.InvocationTargetException;
 import java.lang.reflect.Method;
+import java.lang.reflect.Modifier;
+import java.util.ArrayList;
+import java.util.Arrays;
 import java.util.HashMap;
+import java.util.List;
 import java.util.Map;
 import java.util.NoSuchElementException;
 import java.util.Set;
+import java.util.function.Supplier;
 
-/** Calls the methods of an object by their names, and tells what they answer as texts. */
+/**
+ * Calls the methods of an object by their names, and tells what they answer as texts. The document promises nothing
+ * of the calls of an object after its 512th: one that had so many is left, and a new one gets the calls that count.
+ */
 final class Face {
+    static final int MOST_CALLS = 512;
     private static final Set<Class<?>> THROWN = Set.of(IllegalStateException.class, IllegalArgumentException.class,
             IndexOutOfBoundsException.class, ArithmeticException.class, UnsupportedOperationException.class,
             NoSuchElementException.class);
-    private final Object object;
-    private final Map<String, Method> methods = new HashMap<>();
 
-    Face(Object object) {
-        this.object = object;
+    private record Call(String name, Object[] arguments, String answer) {
+    }
+
+    private final Supplier<?> maker;
+    private final Map<String, Method> methods = new HashMap<>();
+    private final List<Call> made = new ArrayList<>();
+    private Object object;
+    private int callsOfObject;
+
+    Face(Supplier<?> maker) {
+        this.maker = maker;
+        object = maker.get();
         for (Method method : object.getClass().getDeclaredMethods()) {
-            if (java.lang.reflect.Modifier.isPublic(method.getModifiers())) {
+            if (Modifier.isPublic(method.getModifiers())) {
                 method.setAccessible(true);
                 methods.put(method.getName(), method);
             }
         }
+    }
+
+    /** Returns another one on which the same calls were made, but for the last few. */
+    Face twinWithout(int lastFew) {
+        Face twin = new Face(maker);
+        for (Call one : made.subList(0, made.size() - lastFew)) {
+            twin.call(one.name, one.arguments);
+        }
+        return twin;
     }
 
     Class<?>[] parametersOf(String name) {
@@ -31,9 +57,44 @@ final class Face {
         return method.getParameterTypes();
     }
 
-    /** Returns the answer as a text, or "throws" and the name of the exception's class. */
+    /** Returns how many calls were made that count. */
+    int made() {
+        return made.size();
+    }
+
+    /** Makes a call that counts, and returns the answer as a text, or "throws" and the name of the exception's class. */
     String call(String name, Object... arguments) {
+        String answer = ask(name, arguments);
+        made.add(new Call(name, arguments, answer));
+        return answer;
+    }
+
+    /** Does the same with a call that does not count, for it must change nothing. */
+    String ask(String name, Object... arguments) {
+        if (made.size() >= MOST_CALLS) {
+            throw new IllegalStateException("no call is left of " + MOST_CALLS);
+        }
+        if (callsOfObject >= MOST_CALLS) {
+            renew();
+        }
+        return answerOf(name, arguments);
+    }
+
+    private void renew() {
+        object = maker.get();
+        callsOfObject = 0;
+        for (Call one : made) {
+            String answer = answerOf(one.name, one.arguments);
+            if (!answer.equals(one.answer)) {
+                throw new AssertionError(one.name + Arrays.toString(one.arguments) + " answered " + one.answer
+                        + ", and, after the same calls but for questions, " + answer);
+            }
+        }
+    }
+
+    private String answerOf(String name, Object[] arguments) {
         parametersOf(name);
+        callsOfObject++;
         try {
             return String.valueOf(methods.get(name).invoke(object, arguments));
         } catch (InvocationTargetException e) {
@@ -51,99 +112,14 @@ final class Face {
         return "throws " + cause.getClass().getSimpleName();
     }
 
-    /** Makes the argument that a parameter of this type takes. */
+    /** Makes the argument that a parameter of this type takes; a character stands between ' and ', or is a number. */
     static Object argument(Class<?> type, String text) {
         if (type == boolean.class) {
             return Boolean.valueOf(text);
         }
         if (type == char.class) {
-            return text.charAt(1);
+            return text.startsWith("'") ? text.charAt(1) : (char) Integer.parseInt(text);
         }
         return Integer.valueOf(text);
-    }
-
-    /** Returns all that can be seen of the state but the line, the reason, the fault position and the buffer. */
-    String seen() {
-        StringBuilder all = new StringBuilder();
-        for (int what = 0; what < 10; what++) {
-            tell(all, "account", what);
-        }
-        for (int leaflet = 0; leaflet < Integer.parseInt(call("account", 0)); leaflet++) {
-            tellLeaflet(all, leaflet);
-        }
-        for (int cousin = 0; cousin < Integer.parseInt(call("account", 1)); cousin++) {
-            tellCousin(all, cousin);
-        }
-        for (int kind = 0; kind < 6; kind++) {
-            tell(all, "tin", kind);
-            tell(all, "lost", kind);
-        }
-        tell(all, "isEven");
-        tell(all, "meanSteps");
-        tell(all, "skippedShare");
-        return all.toString();
-    }
-
-    private void tellLeaflet(StringBuilder all, int leaflet) {
-        for (int what = 0; what < 8; what++) {
-            tell(all, "leafletOf", leaflet, what);
-        }
-        for (int step = 0; step < Integer.parseInt(call("leafletOf", leaflet, 0)); step++) {
-            for (int what = 0; what < 5; what++) {
-                tell(all, "stepOf", leaflet, step, what);
-            }
-            tell(all, "canFinish", leaflet, step);
-        }
-        tell(all, "couldFinish", leaflet);
-        tell(all, "bestCousin", leaflet);
-        for (int measure = 0; measure < 4; measure++) {
-            tell(all, "ranked", measure, leaflet);
-        }
-    }
-
-    private void tellCousin(StringBuilder all, int cousin) {
-        for (int what = 0; what < 5; what++) {
-            tell(all, "cousinOf", cousin, what);
-        }
-        for (int leaflet = 0; leaflet < Integer.parseInt(call("account", 0)); leaflet++) {
-            tell(all, "wouldSkip", cousin, leaflet);
-            tell(all, "bestLanguage", cousin, leaflet);
-            tell(all, "bestFolds", cousin, leaflet);
-            for (int kind = 0; kind < 6; kind++) {
-                tell(all, "wouldLeave", cousin, leaflet, kind);
-            }
-            for (int step = 0; step < Integer.parseInt(call("leafletOf", leaflet, 0)); step++) {
-                tell(all, "why", cousin, leaflet, step);
-                tell(all, "whyAgain", cousin, leaflet, step);
-            }
-        }
-    }
-
-    private void tell(StringBuilder all, String name, Object... arguments) {
-        all.append(name).append(java.util.Arrays.toString(arguments)).append('=');
-        all.append(call(name, arguments)).append('\n');
-    }
-
-    /** Returns the line, the reason, the fault position and the length of the buffer. */
-    String seenBeside() {
-        StringBuilder all = new StringBuilder();
-        tell(all, "faultPosition");
-        tell(all, "account", 10);
-        for (int what = 0; what < 3; what++) {
-            tell(all, "reason", what);
-        }
-        return all.append(lineSeen()).toString();
-    }
-
-    String lineSeen() {
-        StringBuilder line = new StringBuilder();
-        for (int index = 0; index < 1000; index++) {
-            String answer = call("character", index);
-            if (answer.startsWith("throws")) {
-                return line.toString();
-            }
-            line.append(answer);
-        }
-        return "a line without an end";
     }
 }

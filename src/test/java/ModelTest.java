@@ -4,7 +4,8 @@ import java.util.List;
 /** Compares the program with a second one, call by call, in many runs of calls that are chosen by a fixed sequence. */
 public final class ModelTest {
     private static final int RUNS = 3000;
-    private static final int CALLS = 256;
+    /** A text, with what is asked behind it, takes at most 70 more, and looks at the state take what is left of 512. */
+    private static final int MOST_CALLS = 350;
     /** Each name as often as it is to be called among the others. */
     private static final String NAMES = "leaflet leaflet step step step step step step fold fold unfold cousin cousin "
             + "learn build build build build finish finish finish finish apart apart move move lose lose find find "
@@ -17,8 +18,8 @@ public final class ModelTest {
         Integer.MIN_VALUE, Integer.MIN_VALUE + 1};
     private static final String ODD_SIGNS = ";;lsSfucbdtmxy:*=>.@0123456789 -+/?\u0000\u007f\u00e9\u0660\uffff";
 
-    private final Face program = new Face(new UnreadLeaflets());
-    private final Face model = new Face(new Model());
+    private final Face program = new Face(UnreadLeaflets::new);
+    private final Face model = new Face(Model::new);
     private final List<String> calls = new ArrayList<>();
     private long sequence;
     private boolean isWrong;
@@ -50,7 +51,7 @@ public final class ModelTest {
 
     private void go() {
         String[] names = NAMES.split(" ");
-        for (int k = 0; k < CALLS && !isWrong; k++) {
+        for (int k = 0; program.made() < MOST_CALLS && !isWrong; k++) {
             String name = names[next(names.length)];
             if (name.equals("TEXT")) {
                 type(text());
@@ -58,8 +59,8 @@ public final class ModelTest {
                 call(name, argumentsOf(name));
             }
             if (k % 16 == 15) {
-                same("the state", program.seen(), model.seen());
-                same("what stays beside", program.seenBeside(), model.seenBeside());
+                same("the state", Sight.ofState(program), Sight.ofState(model));
+                same("what stays beside", Sight.ofAllBeside(program), Sight.ofAllBeside(model));
             }
         }
     }
